@@ -1619,7 +1619,7 @@ public final class QuietDesk {
             tellCall = at;
             emit(Orders.add(SPARE, 0, TOLD_BYTES));
             emit(Orders.branchIfEqual(TOLD_SO_FAR, SPARE, 16));
-            emit(Orders.store(RESULT, TOLD_SO_FAR, TOLD));
+            emit(Orders.toMemory(RESULT, TOLD_SO_FAR, TOLD));
             emit(Orders.add(TOLD_SO_FAR, TOLD_SO_FAR, 4));
             comeBack();
             writeEnd(3);
@@ -1635,7 +1635,7 @@ public final class QuietDesk {
             itemCalls = at;
             int indexEnd = at + before * ROW_BYTES;
             for (int name = 0; name < names.size(); name++) {
-                writeRowCall(name, indexEnd, Orders.load(RESULT, RESULT, wordPlace(name)));
+                writeRowCall(name, indexEnd, Orders.fromMemory(RESULT, RESULT, wordPlace(name)));
             }
             writeEnd(1);
             placeCalls = at;
@@ -1663,17 +1663,17 @@ public final class QuietDesk {
         }
 
         private void hold(int register) {
-            emit(Orders.store(register, 0, HELD + held * 4));
+            emit(Orders.toMemory(register, 0, HELD + held * 4));
             held++;
         }
 
         private void lookAtHeld(int register) {
-            emit(Orders.load(register, 0, HELD + (held - 1) * 4));
+            emit(Orders.fromMemory(register, 0, HELD + (held - 1) * 4));
         }
 
         private void release(int register) {
             held--;
-            emit(Orders.load(register, 0, HELD + held * 4));
+            emit(Orders.fromMemory(register, 0, HELD + held * 4));
         }
 
         private void writeNode(int i) {
@@ -1731,15 +1731,15 @@ public final class QuietDesk {
         private void writePut(int target) {
             if (nodes.kind(target) == Nodes.TARGET_ROW) {
                 release(OTHER);
-                emit(Orders.store(RESULT, OTHER, 0));
+                emit(Orders.toMemory(RESULT, OTHER, 0));
                 return;
             }
             int place = wordPlace(nodes.value(target));
             if (hidden > 0) {
-                emit(Orders.load(OTHER, 0, place));
+                emit(Orders.fromMemory(OTHER, 0, place));
                 emit(Orders.jump(BACK, keepCall - at));
             }
-            emit(Orders.store(RESULT, 0, place));
+            emit(Orders.toMemory(RESULT, 0, place));
         }
 
         /** A jump that is passed over when the result is not 0; its goal is not known yet. */
@@ -1811,8 +1811,10 @@ public final class QuietDesk {
             writeLeaf(part, free);
             for (int i = 0; i < nodes.size() && part != node; i++) {
                 part = nodes.tie(part);
-                if (!isPair(part)) {
-                    writeAround(part, register(free));
+                if (nodes.kind(part) == Nodes.ITEM) {
+                    callFor(part, rowCall(itemCalls, nodes.value(part)));
+                } else if (!isPair(part)) {
+                    writeUnary(part, register(free));
                 } else if (rightFirst(part)) {
                     free--;
                     writePair(part, free, free + 1, free);
@@ -1855,7 +1857,7 @@ public final class QuietDesk {
 
         private void writeLeaf(int i, int to) {
             if (nodes.kind(i) == Nodes.NAME) {
-                emit(Orders.load(register(to), 0, wordPlace(nodes.value(i))));
+                emit(Orders.fromMemory(register(to), 0, wordPlace(nodes.value(i))));
                 return;
             }
             int number = nodes.value(i);
@@ -1868,11 +1870,8 @@ public final class QuietDesk {
             emit(Orders.add(register(to), register(to), low));
         }
 
-        private void writeAround(int i, int to) {
+        private void writeUnary(int i, int to) {
             switch (nodes.kind(i)) {
-                case Nodes.ITEM:
-                    callFor(i, rowCall(itemCalls, nodes.value(i)));
-                    break;
                 case Nodes.NEGATE:
                     emit(Orders.join('-', to, 0, to));
                     break;
@@ -1935,11 +1934,11 @@ public final class QuietDesk {
             return number << 20 | from << 15 | kind << 12 | to << 7 | 0x13;
         }
 
-        static int load(int to, int base, int distance) {
+        static int fromMemory(int to, int base, int distance) {
             return distance << 20 | base << 15 | 2 << 12 | to << 7 | 0x03;
         }
 
-        static int store(int from, int base, int distance) {
+        static int toMemory(int from, int base, int distance) {
             return distance >> 5 << 25 | from << 20 | base << 15 | 2 << 12 | (distance & 31) << 7 | 0x23;
         }
 
