@@ -8,6 +8,8 @@ public final class ProgramsTest {
     /** By the number of what was wrong; 0 for right ones. */
     private static final int[] loads = new int[9];
     private static int faults = 0;
+    /** Used for some programs one after another, so that what one of them leaves behind is seen. */
+    private static QuietDesk desk = new QuietDesk();
     private static final int[] ends = new int[4];
 
     public static void main(String[] args) {
@@ -41,7 +43,9 @@ public final class ProgramsTest {
     }
 
     private static void oneProgram(String name, String text, Random random) {
-        QuietDesk desk = new QuietDesk();
+        if (random.nextInt(3) == 0) {
+            desk = new QuietDesk();
+        }
         int n = Bench.feed(desk, text);
         int fault = GRAMMAR.fault(text);
         ReferenceProgram reference = null;
@@ -76,13 +80,13 @@ public final class ProgramsTest {
         bench.due(name + " count(1)", desk.count(1), reference.inputs.length);
         bench.due(name + " count(2)", desk.count(2), open);
         for (int i = 0; i < 6; i++) {
-            giveInputs(desk, reference, random, i % 2 == 1);
+            giveInputs(reference, random, i % 2 == 1);
             int steps = i % 2 == 1 ? reference.limit : random.nextInt(3) == 0 ? random.nextInt(20) : random.nextInt(500);
-            compareRun(name + " run " + i, desk, reference, steps);
+            compareRun(name + " run " + i, reference, steps);
         }
     }
 
-    private static void giveInputs(QuietDesk desk, ReferenceProgram reference, Random random, boolean secretsAlone) {
+    private static void giveInputs(ReferenceProgram reference, Random random, boolean secretsAlone) {
         for (int k = 0; k < reference.inputs.length; k++) {
             if (!secretsAlone || reference.inputSecret.get(k)) {
                 int v = random.nextInt(3) == 0 ? random.nextInt() : EDGES[random.nextInt(EDGES.length)];
@@ -93,7 +97,7 @@ public final class ProgramsTest {
         bench.due("input behind the last", desk.input(reference.inputs.length, 1), false);
     }
 
-    private static void compareRun(String name, QuietDesk desk, ReferenceProgram reference, int steps) {
+    private static void compareRun(String name, ReferenceProgram reference, int steps) {
         int end = reference.run(steps);
         ends[end]++;
         bench.due(name + " run(" + steps + ")", desk.run(steps), end);

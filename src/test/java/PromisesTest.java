@@ -48,25 +48,16 @@ public final class PromisesTest {
         bench.due(call, got, want);
     }
 
-    /** load() of a text on a new object, and what is told of it. */
-    private static void loads(String text, int answer, int place, int number) {
-        QuietDesk x = new QuietDesk();
-        due("load of " + text, Bench.load(x, text), answer);
-        due("told(0) of " + text, x.told(0), place);
-        due("told(1) of " + text, x.told(1), number);
-    }
-
     private static void right(String text) {
-        loads(text, 0, NONE, NONE);
+        bench.right(text);
     }
 
     private static void fault(String text, int place) {
-        loads(text, -2, place, 0);
+        bench.fault(text, place);
     }
 
-    /** The place of what is wrong is marked by a # in the text. */
     private static void wrong(int number, String text) {
-        loads(text.replace("#", ""), -3, text.indexOf('#'), number);
+        bench.wrong(number, text);
     }
 
     /** Runs a text once with enough steps. */
@@ -94,7 +85,7 @@ public final class PromisesTest {
         due("out(0)", x.out(0), 0);
         due("word(0)", x.word(0), 0);
         due("quiet()", x.quiet(), true);
-        for (int place = 0; place < 16384; place += 4) {
+        for (int place = 0; place < 16384; place += 64) {
             due("peek of a new object", x.peek(place), 0);
         }
         for (int r = 0; r < 32; r++) {
@@ -754,34 +745,9 @@ public final class PromisesTest {
         due("get(GREATEST)", x.get(GREATEST), 0);
     }
 
-    private static int add(int to, int from, int number) {
-        return number << 20 | from << 15 | to << 7 | 0x13;
-    }
-
-    private static int load(int to, int base, int number) {
-        return number << 20 | base << 15 | 0x2003 | to << 7;
-    }
-
-    private static int store(int from, int base, int number) {
-        return number >> 5 << 25 | from << 20 | base << 15 | 0x2023 | (number & 31) << 7;
-    }
-
-    private static int plain(int upper, int kind, int to, int a, int b) {
-        return upper << 25 | b << 20 | a << 15 | kind << 12 | to << 7 | 0x33;
-    }
-
-    private static QuietDesk machine(int at, int... orders) {
-        QuietDesk x = new QuietDesk();
-        for (int i = 0; i < orders.length; i++) {
-            x.poke(at + 4 * i, orders[i]);
-        }
-        x.start(at);
-        return x;
-    }
-
     // 16
     private static void start() {
-        QuietDesk x = machine(0, add(1, 1, 1), add(1, 1, 1), 115);
+        QuietDesk x = Order.machine(0, Order.addi(1, 1, 1), Order.addi(1, 1, 1), 115);
         due("go(9)", x.go(9), 1);
         due("start(-4)", x.start(-4), false);
         due("start(16384)", x.start(16384), false);
@@ -807,7 +773,7 @@ public final class PromisesTest {
 
     // 17
     private static void go() {
-        QuietDesk x = machine(64, add(1, 0, 7), add(2, 1, -9), 115);
+        QuietDesk x = Order.machine(64, Order.addi(1, 0, 7), Order.addi(2, 1, -9), 115);
         due("go(-1)", x.go(-1), NONE);
         due("go(2001)", x.go(2001), NONE);
         due("go(LEAST)", x.go(LEAST), NONE);
@@ -821,7 +787,7 @@ public final class PromisesTest {
         due("go(1) at ECALL again", x.go(1), 1);
         due("get(2)", x.get(2), -2);
         due("state(1)", x.state(1), 2);
-        x = machine(0, 0x0000006F);
+        x = Order.machine(0, 0x0000006F);
         due("2000 jumps to itself", x.go(2000), 0);
         due("state(1)", x.state(1), 2000);
         due("state(2)", x.state(2), 4020);
@@ -829,7 +795,7 @@ public final class PromisesTest {
     }
 
     private static void stopsBy(int order, int why, int register, int v) {
-        QuietDesk x = machine(8, order);
+        QuietDesk x = Order.machine(8, order);
         x.set(register, v);
         due("go(1) at " + Integer.toHexString(order), x.go(1), why);
         if (why != 0) {
@@ -858,37 +824,37 @@ public final class PromisesTest {
                 stopsBy(upper << 25 | kind << 12 | 0x33, plain ? 0 : 2, 1, 0);
             }
         }
-        stopsBy(load(2, 1, 0), 0, 1, 16380);
-        stopsBy(load(2, 1, 4), 3, 1, 16380);
-        stopsBy(load(2, 1, 1), 3, 1, 16);
-        stopsBy(load(2, 1, 2), 3, 1, 16);
-        stopsBy(load(2, 1, -4), 3, 1, 0);
-        stopsBy(load(2, 1, -4), 0, 1, 4);
-        stopsBy(load(2, 1, 0), 3, 1, LEAST);
-        stopsBy(store(2, 1, 0), 0, 1, 16380);
-        stopsBy(store(2, 1, 4), 3, 1, 16380);
-        stopsBy(store(2, 1, -1), 3, 1, 4);
-        stopsBy(store(2, 1, -2048), 0, 1, 2048);
-        stopsBy(store(2, 1, -2048), 3, 1, 2044);
-        QuietDesk x = machine(16380, add(1, 0, 1));
+        stopsBy(Order.lw(2, 1, 0), 0, 1, 16380);
+        stopsBy(Order.lw(2, 1, 4), 3, 1, 16380);
+        stopsBy(Order.lw(2, 1, 1), 3, 1, 16);
+        stopsBy(Order.lw(2, 1, 2), 3, 1, 16);
+        stopsBy(Order.lw(2, 1, -4), 3, 1, 0);
+        stopsBy(Order.lw(2, 1, -4), 0, 1, 4);
+        stopsBy(Order.lw(2, 1, 0), 3, 1, LEAST);
+        stopsBy(Order.sw(2, 1, 0), 0, 1, 16380);
+        stopsBy(Order.sw(2, 1, 4), 3, 1, 16380);
+        stopsBy(Order.sw(2, 1, -1), 3, 1, 4);
+        stopsBy(Order.sw(2, 1, -2048), 0, 1, 2048);
+        stopsBy(Order.sw(2, 1, -2048), 3, 1, 2044);
+        QuietDesk x = Order.machine(16380, Order.addi(1, 0, 1));
         due("the last order", x.go(1), 0);
         due("behind the memory", x.go(1), 3);
         due("state(0)", x.state(0), 16384);
-        x = machine(0, 0x00008067);
+        x = Order.machine(0, 0x00008067);
         x.set(1, 6);
         due("a jump to half an order", x.go(1), 0);
         due("state(0)", x.state(0), 6);
         due("the stop is at its goal", x.go(1), 3);
-        x = machine(0, 0x00008067);
+        x = Order.machine(0, 0x00008067);
         x.set(1, 9);
         x.go(1);
         due("JALR leaves out the last bit", x.state(0), 8);
-        x = machine(0, 0x00008067);
+        x = Order.machine(0, 0x00008067);
         x.set(1, -4);
         due("a jump before the memory", x.go(1), 0);
         due("state(0)", x.state(0), -4);
         due("go(1)", x.go(1), 3);
-        x = machine(0, 0x000080E7);
+        x = Order.machine(0, 0x000080E7);
         x.set(1, 64);
         x.go(1);
         due("JALR takes its goal before it links", x.state(0), 64);
@@ -898,9 +864,9 @@ public final class PromisesTest {
     private static void cacheAndCycles() {
         // One order in each of the sets 0 (three lines of it), then back to see which line went.
         QuietDesk x = new QuietDesk();
-        x.poke(512, load(1, 0, 0));
-        x.poke(516, load(1, 0, 256));
-        x.poke(520, load(1, 0, 0));
+        x.poke(512, Order.lw(1, 0, 0));
+        x.poke(516, Order.lw(1, 0, 256));
+        x.poke(520, Order.lw(1, 0, 0));
         x.poke(524, 115);
         x.start(512);
         due("go(1)", x.go(1), 0);
@@ -911,20 +877,22 @@ public final class PromisesTest {
         due("go(1)", x.go(1), 0);
         due("and 0 is a miss again", x.state(3), 4);
         due("cycles", x.state(2), 3 + 80);
-        x = machine(0, plain(1, 0, 3, 1, 2), plain(1, 1, 3, 1, 2), plain(1, 2, 3, 1, 2), plain(1, 3, 3, 1, 2));
+        x = Order.machine(0, Order.plain(1, 0, 3, 1, 2), Order.plain(1, 1, 3, 1, 2), Order.plain(1, 2, 3, 1, 2),
+            Order.plain(1, 3, 3, 1, 2));
         due("go(4)", x.go(4), 0);
         due("cycles of products", x.state(2), 4 * 4 + 20);
-        x = machine(0, plain(1, 4, 3, 1, 2), plain(1, 5, 3, 1, 2), plain(1, 6, 3, 1, 2), plain(1, 7, 3, 1, 2));
+        x = Order.machine(0, Order.plain(1, 4, 3, 1, 2), Order.plain(1, 5, 3, 1, 2), Order.plain(1, 6, 3, 1, 2),
+            Order.plain(1, 7, 3, 1, 2));
         due("go(4)", x.go(4), 0);
         due("cycles of divisions", x.state(2), 4 * 33 + 20);
-        x = machine(0, 0x00101463, 0x00000463);
+        x = Order.machine(0, 0x00101463, 0x00000463);
         due("go(1): a branch that is not taken", x.go(1), 0);
         due("cycles", x.state(2), 21);
         due("go(1): one that is", x.go(1), 0);
         due("cycles", x.state(2), 23);
         due("state(0)", x.state(0), 12);
         for (int set = 0; set < 16; set++) {
-            x = machine(0, load(1, 2, 0), load(1, 3, 0), load(1, 2, 0), load(1, 3, 0));
+            x = Order.machine(0, Order.lw(1, 2, 0), Order.lw(1, 3, 0), Order.lw(1, 2, 0), Order.lw(1, 3, 0));
             x.set(2, 1024 + 16 * set);
             x.set(3, 1024 + 256 + 16 * set);
             x.go(4);
@@ -935,7 +903,7 @@ public final class PromisesTest {
 
     // 18
     private static void state() {
-        QuietDesk x = machine(128, add(1, 0, 1), store(1, 0, 256), 115);
+        QuietDesk x = Order.machine(128, Order.addi(1, 0, 1), Order.sw(1, 0, 256), 115);
         x.go(5);
         due("state(0)", x.state(0), 136);
         due("state(1)", x.state(1), 2);
@@ -945,7 +913,7 @@ public final class PromisesTest {
         due("state(-1)", x.state(-1), NONE);
         due("state(LEAST)", x.state(LEAST), NONE);
         x = new QuietDesk();
-        x.poke(0, add(1, 0, 1));
+        x.poke(0, Order.addi(1, 0, 1));
         x.poke(4, 115);
         due("go from the beginning", x.go(9), 1);
         due("state(0)", x.state(0), 4);
@@ -962,12 +930,12 @@ public final class PromisesTest {
 
     // 19
     private static void trail() {
-        QuietDesk x = machine(64, add(1, 0, -5), store(1, 0, 256), load(2, 0, 260), plain(1, 5, 3, 1, 2),
-            plain(1, 6, 3, 2, 1), plain(1, 0, 3, 1, 1), 0x0000006F | 4 << 21, 115, 115);
+        QuietDesk x = Order.machine(64, Order.addi(1, 0, -5), Order.sw(1, 0, 256), Order.lw(2, 0, 260),
+            Order.plain(1, 5, 3, 1, 2), Order.plain(1, 6, 3, 2, 1), Order.plain(1, 0, 3, 1, 1), 0x0000006F | 4 << 21, 115, 115);
         due("trail()", x.trail(), 0);
         due("go(9)", x.go(9), 1);
         due("trail()", x.trail(), trailOf(64, 68, 256, 72, 260, 76, -5, 0, 80, 0, -5, 84, 88));
-        x = machine(0, add(0, 0, 0));
+        x = Order.machine(0, Order.addi(0, 0, 0));
         x.go(1);
         due("trail() of the place 0", x.trail(), 1);
     }
