@@ -282,6 +282,24 @@ public final class MachineEdgesTest {
         }
     }
 
+    /** "An object is used for at most 512 calls": the most orders in each, none of the counts runs over. */
+    private static void goUpToThe512thCall() {
+        QuietDesk x = Order.machine(0, Order.div(3, 1, 2), Order.jal(0, -4));
+        x.set(1, LEAST);
+        x.set(2, -1);
+        long want = 0;
+        for (int i = 1; i <= 500; i++) {
+            due("go(2000)", x.go(2000), 0);
+            for (int k = 0; k < 1000; k++) {
+                for (int event : new int[] {0, LEAST, -1, 4}) {
+                    want = want * 6364136223846793005L + event + 1;
+                }
+            }
+        }
+        states("after 500 calls", x, 0, 1_000_000, 500_000 * 35 + 20, 1);
+        due("trail()", x.trail(), want);
+    }
+
     /** At a stop go(0) does all of none, go(n) stops again; with another word there it goes on. */
     private static void goAtAStop() {
         QuietDesk x = Order.machine(0, Order.ECALL, Order.addi(1, 0, 3));
@@ -357,6 +375,13 @@ public final class MachineEdgesTest {
         }
         stops(0, 2);
         stops(-1, 2);
+        // Loads and stores of bytes and halves are other words, wherever they would reach.
+        for (int kind : new int[] {0, 1, 3, 4, 5, 6, 7}) {
+            for (int number : new int[] {0, 1, 2, -4, 2047}) {
+                stops(Order.lw(2, 0, number) & ~(7 << 12) | kind << 12, 2);
+                stops(Order.sw(2, 0, number) & ~(7 << 12) | kind << 12, 2);
+            }
+        }
     }
 
     private static void stops(int order, int why) {

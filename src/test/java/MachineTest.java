@@ -38,6 +38,7 @@ public final class MachineTest {
             bench.due(name + " set", desk.set(r, v), true);
             reference.x[r] = r == 0 ? 0 : v;
         }
+        byte[] before = reference.memory.clone();
         for (int turn = 0; turn < 3; turn++) {
             int from = turn == 2 && random.nextBoolean() ? reference.place : base + 4 * random.nextInt(10);
             if (from >= 0 && from <= 16380 && from % 4 == 0 && (turn == 0 || random.nextInt(3) == 0)) {
@@ -54,6 +55,7 @@ public final class MachineTest {
             bench.due(name + " go(" + n + ")", desk.go(n), stop);
             compare(name, desk, reference);
         }
+        compareMemory(name, desk, reference, before, random);
     }
 
     private static void meet(ReferenceMachine reference) {
@@ -133,7 +135,19 @@ public final class MachineTest {
         for (int r = 0; r < 32; r++) {
             bench.due(name + " get(" + r + ")", desk.get(r), reference.x[r]);
         }
-        for (int place = 0; place < 16384; place += 4) {
+    }
+
+    /** The words that changed, and some others: more calls than 512 are not promised. */
+    private static void compareMemory(String name, QuietDesk desk, ReferenceMachine reference, byte[] before, Random random) {
+        int asked = 0;
+        for (int place = 0; place < 16384 && asked < 100; place += 4) {
+            if (!java.util.Arrays.equals(before, place, place + 4, reference.memory, place, place + 4)) {
+                bench.due(name + " peek(" + place + ")", desk.peek(place), reference.word(place));
+                asked++;
+            }
+        }
+        for (; asked < 200; asked++) {
+            int place = 4 * random.nextInt(4096);
             bench.due(name + " peek(" + place + ")", desk.peek(place), reference.word(place));
         }
     }

@@ -4,12 +4,15 @@ import java.util.Random;
 public final class ProgramsTest {
     private static final ReferenceGrammar GRAMMAR = new ReferenceGrammar();
     private static final int[] EDGES = {0, 1, -1, 2, 3, 4, 5, 31, 32, Integer.MIN_VALUE, Integer.MAX_VALUE, 65536};
+    /** Of the words, and of what was told. */
+    private static final int MOST_ASKED = 12;
     private static final Bench bench = new Bench();
     /** By the number of what was wrong; 0 for right ones. */
     private static final int[] loads = new int[9];
     private static int faults = 0;
     /** Used for some programs one after another, so that what one of them leaves behind is seen. */
     private static QuietDesk desk = new QuietDesk();
+    private static int calls = 0;
     private static final int[] ends = new int[4];
 
     public static void main(String[] args) {
@@ -43,9 +46,12 @@ public final class ProgramsTest {
     }
 
     private static void oneProgram(String name, String text, Random random) {
-        if (random.nextInt(3) == 0) {
+        // What a program takes at most stays below 300 calls; more than 512 of an object are not promised.
+        if (random.nextInt(4) == 0 || calls + text.length() / 20 + 320 > 512) {
             desk = new QuietDesk();
+            calls = 0;
         }
+        calls += text.length() / 20 + 10;
         int n = Bench.feed(desk, text);
         int fault = GRAMMAR.fault(text);
         ReferenceProgram reference = null;
@@ -79,7 +85,9 @@ public final class ProgramsTest {
         bench.due(name + " count(0)", desk.count(0), reference.words);
         bench.due(name + " count(1)", desk.count(1), reference.inputs.length);
         bench.due(name + " count(2)", desk.count(2), open);
-        for (int i = 0; i < 6; i++) {
+        int callsOfARun = reference.inputs.length + 2 * MOST_ASKED + 15;
+        for (int i = 0; i < 6 && (i + 1) * callsOfARun < 300; i++) {
+            calls += callsOfARun;
             giveInputs(reference, random, i % 2 == 1);
             int steps = i % 2 == 1 ? reference.limit : random.nextInt(3) == 0 ? random.nextInt(20) : random.nextInt(500);
             compareRun(name + " run " + i, reference, steps);
@@ -104,11 +112,13 @@ public final class ProgramsTest {
         bench.due(name + " ran(0)", desk.ran(0), reference.endPlace);
         bench.due(name + " ran(1)", desk.ran(1), reference.steps);
         bench.due(name + " ran(2)", desk.ran(2), reference.told.size());
-        for (int i = -1; i <= reference.told.size(); i++) {
+        int some = Math.max(0, reference.told.size() - MOST_ASKED);
+        for (int i = some - 1; i <= reference.told.size(); i++) {
             int want = i >= 0 && i < reference.told.size() ? reference.told.get(i) : 0;
             bench.due(name + " out(" + i + ")", desk.out(i), want);
         }
-        for (int k = -1; k <= reference.words; k++) {
+        int stride = reference.words / MOST_ASKED + 1;
+        for (int k = -1; k <= reference.words; k += stride) {
             int want = k >= 0 && k < reference.words ? reference.memory[k] : 0;
             bench.due(name + " word(" + k + ")", desk.word(k), want);
         }

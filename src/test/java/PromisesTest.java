@@ -664,6 +664,7 @@ public final class PromisesTest {
         due("quiet() without a run", x.quiet(), true);
         int[] secrets = {0, 1, -1, 7, LEAST, GREATEST};
         for (int n = 0; n < 5; n++) {
+            x = Bench.loaded(text);
             x.input(4, n);
             for (int a : secrets) {
                 for (int b : secrets) {

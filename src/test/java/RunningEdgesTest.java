@@ -589,6 +589,26 @@ public final class RunningEdgesTest {
         }
     }
 
+    /** "An object is used for at most 512 calls": with the longest tape and the most steps, to the last of them. */
+    private static void runsUpToThe512thCall() {
+        QuietDesk x = new QuietDesk();
+        String text = "pub in a;sec in k;pub b;sec c;while(b<a){b=b+1;if(k){c=c+2;}}";
+        due("load", Bench.load(x, text + " ".repeat(3000 - text.length())), 0);
+        int calls = 151;
+        for (int i = 0; calls + 7 <= 512; i++) {
+            int a = 640 + i;
+            int steps = 1 + 1 + 3 * a;
+            due("input(0)", x.input(0, a), true);
+            due("input(1)", x.input(1, i % 3), true);
+            due("run(2000)", x.run(2000), steps <= 2000 ? 0 : 2);
+            due("ran(1)", x.ran(1), Math.min(2000, steps));
+            due("word(2)", x.word(2), Math.min(a, 666));
+            due("word(3)", x.word(3), i % 3 == 0 ? 0 : 2 * Math.min(a, 666));
+            due("quiet()", x.quiet(), true);
+            calls += 7;
+        }
+    }
+
     // Promise 8
 
     /** "NONE when there was none": before the first run, after a load of any kind. */
