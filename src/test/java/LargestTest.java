@@ -32,6 +32,7 @@ public final class LargestTest {
         rows();
         for (int i = 0; i < rounds && bench.wrong() == 0; i++) {
             dense(i, new Random(seed * 31 + i));
+            waiting(i, new Random(seed * 37 + i));
         }
         bench.end("LargestTest");
     }
@@ -115,6 +116,43 @@ public final class LargestTest {
                 text.append(around.equals("-") ? "" : around.substring(around.length() - 1));
             } else {
                 leaf(text, random, open, rowsOfTen);
+            }
+        }
+    }
+
+    /** Expressions in which as many left parts as can be, each one another number, wait for what is right of them. */
+    private static void waiting(int round, Random random) {
+        StringBuilder text = new StringBuilder(HEAD);
+        for (int i = 0; i < 16; i++) {
+            int mark = text.length();
+            text.append("r[").append(i).append("]=");
+            int deepest = 1 + random.nextInt(30);
+            int opened = 0;
+            for (int depth = 4; depth <= deepest; depth += 2) {
+                waitingParts(text, random);
+                if (random.nextInt(4) == 0) {
+                    text.append("-~!".charAt(random.nextInt(3)));
+                    depth++;
+                }
+                text.append('(');
+                opened++;
+            }
+            text.append('b').append(")".repeat(opened)).append(';');
+            if (text.length() > 3000) {
+                text.setLength(mark);
+            }
+        }
+        compare("waiting " + round, text.toString(), random);
+    }
+
+    private static void waitingParts(StringBuilder text, Random random) {
+        String[][] levels = {{"|"}, {"^"}, {"&"}, {"==", "<", "<="}, {"<<", ">>"}, {"+", "-"}, {"*"}};
+        // What loses most of the right part's bits stands there more seldom.
+        int[] ofTen = {7, 9, 5, 2, 4, 9, 8};
+        for (int level = 0; level < levels.length; level++) {
+            if (random.nextInt(10) < ofTen[level]) {
+                text.append(random.nextInt(4) == 0 ? "~b" : "" + random.nextInt(100));
+                text.append(levels[level][random.nextInt(levels[level].length)]);
             }
         }
     }
