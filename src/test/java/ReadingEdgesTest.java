@@ -339,6 +339,22 @@ public final class ReadingEdgesTest {
         }
     }
 
+    /** Loads on one object, each a byte or some bytes longer or shorter than the one before; every byte is a token. */
+    private static void loadOfMoreAndMore() {
+        ReferenceGrammar grammar = new ReferenceGrammar();
+        String text = "a=b*(c-2)/d|-3;e[f]=g[h+!4]%(5^i)&~j;k=l<m;n=o[p[q]];";
+        for (int by : new int[] {1, 2, 19, 20, 21, -1}) {
+            QuietDesk x = new QuietDesk();
+            for (int n = by < 0 ? text.length() : 0; n >= 0 && n <= text.length(); n += by) {
+                String first = text.substring(0, n);
+                int fault = grammar.fault(first);
+                // Without a fault the a is wrong, as it was not declared; nothing at all is right.
+                due("load of " + first, Bench.load(x, first), fault >= 0 ? -2 : n == 0 ? 0 : -3);
+                due("told(0) of " + first, x.told(0), fault >= 0 ? fault : n == 0 ? NONE : 0);
+            }
+        }
+    }
+
     /** Two objects that loaded the same answer the same, before a run and after some. */
     private static void same(String name, QuietDesk x, QuietDesk y) {
         for (int run = -1; run < 12; run++) {
